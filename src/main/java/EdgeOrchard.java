@@ -331,7 +331,7 @@ public final class EdgeOrchard {
         for (int i = 0; i < fetchCount && i < fetchRow.length; i++) {
             Fetch fetch = fetchRow[i];
             if (fetch != null && fetch.shelf == shelf && fetch.isOpen && !fetch.isAlone && fetch.above >= need
-                    && fetch.hasAllPiecesOf(wish) && shelf.isSameKey(fetch, wish)) {
+                    && wish.isAllIn(fetch.pieces) && shelf.isSameKey(fetch, wish)) {
                 return fetch;
             }
         }
@@ -405,7 +405,7 @@ public final class EdgeOrchard {
         fetch.close();
         shelf.learn(told.rules.varies);
         Copy had = shelf.copyFor(fetch.language, fetch.kind);
-        if (had == null || had.told.version != told.version || !had.hasAllPiecesOf(fetch)) {
+        if (had == null || had.told.version != told.version || !fetch.isAllIn(had.pieces)) {
             shelf.place.fetched += Integer.bitCount(fetch.pieces);
         }
         if (shelf.isKept(told, had)) {
@@ -585,10 +585,6 @@ public final class EdgeOrchard {
             lastUse = use;
         }
 
-        boolean hasAllPiecesOf(Wish wish) {
-            return (wish.pieces & ~pieces) == 0;
-        }
-
         boolean isFresh(int now) {
             return softSince == NONE && now < told.time + told.rules.life;
         }
@@ -642,7 +638,7 @@ public final class EdgeOrchard {
         /** The copy for what is wished, if its time is enough and it has all pieces; otherwise null. */
         Copy copyEnoughFor(Wish wish) {
             Copy had = copyFor(wish.language, wish.kind);
-            if (had == null || had.told.time <= wish.needAt(this) || !had.hasAllPiecesOf(wish)) {
+            if (had == null || had.told.time <= wish.needAt(this) || !wish.isAllIn(had.pieces)) {
                 return null;
             }
             return had;
@@ -784,6 +780,10 @@ public final class EdgeOrchard {
             this.pieces = pieces;
         }
 
+        boolean isAllIn(int somePieces) {
+            return (pieces & ~somePieces) == 0;
+        }
+
         /** The second that the time of an answer has to be above, at the place to which this has come. */
         abstract int needAt(Shelf shelf);
     }
@@ -833,10 +833,6 @@ public final class EdgeOrchard {
         @Override
         int needAt(Shelf at) {
             return above;
-        }
-
-        boolean hasAllPiecesOf(Wish wish) {
-            return (wish.pieces & ~pieces) == 0;
         }
 
         void takeOn(Wish wish) {
