@@ -1,4 +1,4 @@
-/** Any arguments in any state: a call answers, or throws just what its throws clause names, the first that applies. */
+/** Any arguments in any state: a call answers, or throws, by a throw of its own, one of the exceptions of the document. */
 public final class WildTest {
     private static final int RUNS = 300;
     private static final int CALLS = 512;
