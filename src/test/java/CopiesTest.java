@@ -123,6 +123,8 @@ public final class CopiesTest {
         x.pass(1);
         Look.copyDue(x, 0, 0, 1, 0, "1 9 6 -1");
         Look.copyDue(x, 1, 0, 1, 0, isUpdated ? "2 10 3 -1" : "1 10 3 -1");
+        // The soft purge comes to place 1 ahead of the fetch's answer, to place 0 three seconds later.
+        x.purge(0, false);
         x.ask(1, 0, 1, 0, 1, 2);
         x.pass(1);
         return x;
@@ -135,7 +137,9 @@ public final class CopiesTest {
         Check.due("fetched(1) of a lower version", x.fetched(1), 4);
         EdgeOrchard y = withAnOlderCopyAbove(false);
         Look.answerDue(y, 4, "fetched 1 9");
+        // The same version: it has its time, though it is an earlier one, and is not soft any more.
         Look.copyDue(y, 1, 0, 1, 0, "1 9 7 -1");
+        Check.due("isDone(0) at place 0 too", y.isDone(0), false);
     }
 
     /** What is given stale is kept below with the time that it has. */

@@ -130,7 +130,67 @@ public final class LimitsTest {
         Look.answerDue(x, second, "failed");
     }
 
+    /** The 400th is of a place below; the place above, which can fetch no more, has what may be stale on errors, or not. */
+    private static void whatIsStaleForThePlaceBelow(int seconds) {
+        EdgeOrchard x = row();
+        fill(x, FETCHES - 3);
+        fillOneByOne(x, 398);
+        x.ask(0, 1, 0, 0, 0, 0);
+        x.pass(1);
+        int told = x.second();
+        x.pass(seconds - 1);
+        int ask = x.ask(1, 1, 0, 0, 0, 0);
+        Check.due("fetches()", x.fetches(), FETCHES);
+        x.pass(1);
+        boolean isGood = seconds < 32;
+        Look.answerDue(x, ask, isGood ? "fetched 1 " + told : "failed");
+        Look.copyDue(x, 1, 1, isGood ? "1 " + told + " 1 -1" : "none");
+        Look.answerDue(x, x.ask(1, 1, 0, 0, 0, 0), isGood ? "stale 1 " + told : "failed");
+        Check.due("fetches() at last", x.fetches(), FETCHES);
+    }
+
+    /** 399 fetches: one more may be made, for a private page as for any, and none behind it. */
+    private static void privateAtTheLimit() {
+        EdgeOrchard x = row();
+        x.page(1, EdgeOrchard.PRIVATE, 9, 9, 9, 0);
+        fill(x, FETCHES);
+        fillOneByOne(x, 398);
+        x.ask(0, 2, 0, 0, 0, 0);
+        x.pass(1);
+        Check.due("fetches() that are left", FETCHES - x.fetches(), 1);
+        int last = x.ask(0, 2, 0, 0, 0, 0);
+        Look.answerDue(x, last, "waiting");
+        int beyond = x.ask(0, 2, 0, 0, 0, 0);
+        Look.answerDue(x, beyond, "failed");
+        Check.due("fetches() at last", x.fetches(), FETCHES);
+        x.pass(1);
+        Look.answerDue(x, last, "fetched 1 " + x.second());
+    }
+
+    /** Four wait for the 400th fetch; the fifth, for whom there would be one more, fails at once. */
+    private static void fourWaitForTheLast() {
+        EdgeOrchard x = row();
+        fill(x, FETCHES);
+        fillOneByOne(x, 399);
+        for (int k = 0; k < 4; k++) {
+            Look.answerDue(x, x.ask(0, 1, 0, 0, 0, 0), "waiting");
+            Check.due("fetches() of " + (k + 1), x.fetches(), FETCHES);
+        }
+        int fifth = x.ask(0, 1, 0, 0, 0, 0);
+        Look.answerDue(x, fifth, "failed");
+        Check.due("onWay(0)", x.onWay(0), 1);
+        x.pass(1);
+        Look.answerDue(x, fifth - 1, "fetched 1 " + x.second());
+        Look.answerDue(x, fifth, "failed");
+        Look.answerDue(x, x.ask(0, 1, 0, 0, 0, 0), "fresh 1 " + x.second());
+    }
+
     public static void main(String[] args) {
+        for (int seconds = 30; seconds <= 33; seconds++) {
+            whatIsStaleForThePlaceBelow(seconds);
+        }
+        privateAtTheLimit();
+        fourWaitForTheLast();
         atOnceForAReader();
         anErrorForThePlaceBelow();
         keptInMindBelow();

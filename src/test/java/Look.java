@@ -3,7 +3,7 @@ final class Look {
     private Look() {
     }
 
-    /** Takes some 110 calls for two places, two pages and few asks: an object has 512. */
+    /** Takes some 140 calls for two places, two pages and few asks: an object has 512. */
     static String all(EdgeOrchard x, int places, int pages, int asks, int purges) {
         StringBuilder seen = new StringBuilder();
         seen.append("second ").append(x.second()).append(" fetches ").append(x.fetches());
@@ -36,14 +36,16 @@ final class Look {
         return seen.toString();
     }
 
-    /** "version time pieces soft", or "none". */
+    /** "version time pieces soft", or "none", if all that it tells is that there is none. */
     static String copy(EdgeOrchard x, int place, int page, int language, int kind) {
-        int version = x.copy(place, page, language, kind, 0);
-        if (version == EdgeOrchard.NONE) {
-            return "none";
+        StringBuilder told = new StringBuilder();
+        boolean isNone = true;
+        for (int what = 0; what < 4; what++) {
+            int one = x.copy(place, page, language, kind, what);
+            isNone = isNone && one == EdgeOrchard.NONE;
+            told.append(what == 0 ? "" : " ").append(one);
         }
-        return version + " " + x.copy(place, page, language, kind, 1) + " " + x.copy(place, page, language, kind, 2)
-                + " " + x.copy(place, page, language, kind, 3);
+        return isNone ? "none" : told.toString();
     }
 
     /** "waiting", "failed", or "fresh", "stale", "fetched" with version and time. */

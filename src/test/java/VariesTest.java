@@ -94,8 +94,8 @@ public final class VariesTest {
     }
 
     /** The first that waits gets what is private, the others come anew, and each is fetched for alone. */
-    private static void privateForTheFirstAlone() {
-        EdgeOrchard x = orchard(PRIVATE, 1);
+    private static void privateForTheFirstAlone(int varies) {
+        EdgeOrchard x = orchard(varies, 1);
         for (int k = 0; k < 4; k++) {
             x.ask(0, 0, 0, 0, 0, 0);
         }
@@ -202,7 +202,9 @@ public final class VariesTest {
         copiesByWhatVaries(LANGUAGE | KIND, 6, "000100");
         copiesByWhatVaries(PRIVATE, 0, "000000");
         learntOtherwise();
-        privateForTheFirstAlone();
+        for (int varies = PRIVATE; varies <= 7; varies++) {
+            privateForTheFirstAlone(varies);
+        }
         privateThroughTiers();
         aloneTakesNobodyOn();
         learntWhileTheyWait();
