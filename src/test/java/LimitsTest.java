@@ -185,6 +185,24 @@ public final class LimitsTest {
         Look.answerDue(x, x.ask(0, 1, 0, 0, 0, 0), "fresh 1 " + x.second());
     }
 
+    /** One for whom there are no more has come all the same: so two have, when the last answer comes. */
+    private static void theRefusedOneHasCome(boolean isAskedAgain) {
+        EdgeOrchard x = new EdgeOrchard();
+        x.page(2, 0, 0, 0, 0, 0);
+        x.page(2, 0, 9, 0, 0, 0);
+        for (int k = 0; k < 6; k++) {
+            x.place(k - 1, 1, 40, k == 0);
+        }
+        fill(x, FETCHES);
+        fillOneByOne(x, 399);
+        x.ask(0, 1, 0, 0, 0, 0);
+        if (isAskedAgain) {
+            Look.answerDue(x, x.ask(0, 1, 0, 0, 1, 1), "failed");
+        }
+        x.pass(1);
+        Look.copyDue(x, 0, 1, isAskedAgain ? "1 " + x.second() + " 1 -1" : "none");
+    }
+
     public static void main(String[] args) {
         for (int seconds = 30; seconds <= 33; seconds++) {
             whatIsStaleForThePlaceBelow(seconds);
@@ -195,6 +213,8 @@ public final class LimitsTest {
         anErrorForThePlaceBelow();
         keptInMindBelow();
         comingAnewWhenThereAreNoMore();
+        theRefusedOneHasCome(true);
+        theRefusedOneHasCome(false);
         Check.end("LimitsTest");
     }
 }
